@@ -64,6 +64,14 @@ public final class BedsTest {
         castsAre("longest first is worse", drawn(2, 146, 96, 96, 96, 71, 71), 0, 5, 2, 3);
         castsAre("in another order", drawn(2, 71, 96, 146, 96, 71, 96), 0, 5, 2, 3);
         castsAre("on the first that fits", drawn(3, 120, 180, 110, 60), 0, 3, 2, 2);
+        castsAre("two that are just full", drawn(4, 146, 73, 73, 96, 98, 98), 0, 5, 2, 3);
+        StoneBeds x = new StoneBeds();
+        for (int plan = 5; plan < 7; plan++) {
+            for (int length : new int[] {146, 96, 96, 96, 71, 71}) {
+                x.part(length, plan, 1);
+            }
+        }
+        castsAre("of two plans", x, 0, 11, 4, 6);
     }
 
     private static void castsBad() {
@@ -188,8 +196,12 @@ public final class BedsTest {
         x.cast(0, 0, 3);
         String before = Check.all(x);
         Check.due("cast: the bed is not empty", x.cast(0, 2, 1), StoneBeds.NO);
+        Check.due("cast: one is cast, the last", x.cast(1, 0, 5), StoneBeds.NO);
         Check.due("cast: one is cast", x.cast(1, 1, 3), StoneBeds.NO);
         Check.holds("cast: no changes nothing", before.equals(Check.all(x)));
+        StoneBeds one = drawn(0, 10, 10);
+        one.cast(0, 0, 1);
+        Check.due("cast: one alone is on the bed", one.cast(0, 1, 1), StoneBeds.NO);
         x.hours(20);
         x.letGo(0);
         Check.due("cast: one is loose", x.cast(1, 1, 3), StoneBeds.NO);
@@ -287,6 +299,10 @@ public final class BedsTest {
         Check.due("letGo: 11 hours", x.letGo(0), StoneBeds.NO);
         x.hours(1);
         Check.due("letGo: 12 hours", x.letGo(0), 1);
+        x.part(10, 0, 1);
+        x.cast(0, 1, 1);
+        x.hours(11);
+        Check.due("letGo: 11 hours, cast at hour 12", x.letGo(0), StoneBeds.NO);
         x = drawn(0, 10);
         x.warmth(-9);
         x.cast(0, 0, 1);
@@ -329,14 +345,27 @@ public final class BedsTest {
         x.hours(57);
         x.letGo(1);
         Check.due("camber: by ripeness", x.told(2, 6), 30000 / (57 * 13 + 1000));
+        x.part(150, 0, 1);
+        x.part(57, 5, 1);
+        x.cast(2, 3, 1);
+        x.cast(1, 4, 1);
+        x.warmth(15);
+        x.hours(20);
+        x.letGo(2);
+        Check.due("camber: without a rest", x.told(3, 6), 15);
+        x.letGo(1);
+        Check.due("camber: cut, 19494 by 1500", x.told(4, 6), 12);
         x.change(2, 50, 2, 1);
         Check.due("camber: as it was let go, also when it is cut", x.told(2, 6), 30000 / (57 * 13 + 1000));
     }
 
     private static void bed() {
-        StoneBeds x = drawn(0, 10, 20, 30);
+        StoneBeds x = drawn(0, 10, 20, 30, 40);
         x.hours(7);
         x.cast(1, 0, 7);
+        x.cast(0, 3, 1);
+        Check.due("bed: one part has no joint", x.bed(0, 1), 40);
+        Check.due("bed: one part", x.bed(0, 0), 1);
         x.hours(200);
         int[] due = {3, 68, 5000, 200};
         for (int what = 0; what < due.length; what++) {

@@ -61,13 +61,15 @@ public final class LorryTest {
     }
 
     private static void loadTooHeavy() {
-        StoneBeds x = withWeights(40, 40, 41, 40);
+        // With the light ones ahead neither AXLE is near its most.
+        StoneBeds x = withWeights(20, 20, 20, 61, 60);
         x.load(0);
         x.load(1);
+        x.load(2);
         String before = Check.all(x);
-        Check.due("load: 121", x.load(2), StoneBeds.NO);
+        Check.due("load: 121", x.load(3), StoneBeds.NO);
         Check.holds("load: too heavy changes nothing", before.equals(Check.all(x)));
-        Check.due("load: 120", x.load(3), 2);
+        Check.due("load: 120", x.load(4), 3);
         Check.due("lorry: 120", x.lorry(1), 120);
     }
 
@@ -99,6 +101,11 @@ public final class LorryTest {
         y.load(2);
         Check.due("load: rear of 723 by the fourth", y.load(3), StoneBeds.NO);
         Check.due("load: rear of 716 by the fourth", y.load(4), 3);
+        StoneBeds w = withWeights(1, 5, 1, 100);
+        w.load(0);
+        w.load(1);
+        w.load(2);
+        Check.due("load: rear of 721 by the fourth", w.load(3), StoneBeds.NO);
         StoneBeds z = withWeights(1, 3, 2, 100);
         z.load(0);
         z.load(1);

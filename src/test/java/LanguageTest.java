@@ -1,0 +1,205 @@
+import com.sun.source.tree.AssertTree;
+import com.sun.source.tree.ClassTree;
+import com.sun.source.tree.CompilationUnitTree;
+import com.sun.source.tree.ImportTree;
+import com.sun.source.tree.LambdaExpressionTree;
+import com.sun.source.tree.MemberReferenceTree;
+import com.sun.source.tree.MethodTree;
+import com.sun.source.tree.NewArrayTree;
+import com.sun.source.tree.NewClassTree;
+import com.sun.source.tree.SynchronizedTree;
+import com.sun.source.tree.ThrowTree;
+import com.sun.source.tree.Tree;
+import com.sun.source.tree.TryTree;
+import com.sun.source.tree.VariableTree;
+import com.sun.source.util.JavacTask;
+import com.sun.source.util.TreePathScanner;
+import com.sun.source.util.Trees;
+import java.lang.reflect.Constructor;
+import java.lang.reflect.Field;
+import java.lang.reflect.Method;
+import java.lang.reflect.Modifier;
+import java.nio.file.Path;
+import java.util.Arrays;
+import java.util.List;
+import java.util.Set;
+import java.util.TreeSet;
+import javax.tools.JavaCompiler;
+import javax.tools.StandardJavaFileManager;
+import javax.tools.ToolProvider;
+
+/** The document's face, and of ../shared/LANGUAGE.md what can be seen in the source. */
+public final class LanguageTest {
+    private static final Set<String> FACE = new TreeSet<>(Arrays.asList(
+        "int part(int, int, int)", "int need(int, int)", "int casts(int, int, int)", "int cast(int, int, int)",
+        "int warmth(int)", "int hours(int)", "int letGo(int)", "int stack(int, int)", "int move(int, int)",
+        "int diggings(int, long)", "int load(int)", "int go()", "int lorry(int)", "int change(int, int, int, int)",
+        "int told(int, int)", "int at(int, int)", "int bed(int, int)", "int count(int)"));
+
+    public static void main(String[] args) throws Exception {
+        face();
+        source(Path.of(args[0]));
+        Check.end("LanguageTest");
+    }
+
+    private static void face() {
+        Check.holds("the class is public and final",
+            Modifier.isPublic(StoneBeds.class.getModifiers()) && Modifier.isFinal(StoneBeds.class.getModifiers()));
+        Set<String> open = new TreeSet<>();
+        Set<String> closed = new TreeSet<>();
+        for (Method m : StoneBeds.class.getDeclaredMethods()) {
+            if (Modifier.isPublic(m.getModifiers()) && !Modifier.isStatic(m.getModifiers())) {
+                List<String> types = Arrays.stream(m.getParameterTypes()).map(Class::getName).toList();
+                open.add(m.getReturnType().getName() + " " + m.getName() + "(" + String.join(", ", types) + ")");
+            } else {
+                Check.holds(m.getName() + " is private", Modifier.isPrivate(m.getModifiers()));
+                closed.add(m.getName());
+            }
+        }
+        Check.holds("the methods are the document's: " + open, open.equals(FACE));
+        for (String method : open) {
+            String name = method.substring(4, method.indexOf('('));
+            Check.holds("no private method is named " + name, !closed.contains(name));
+        }
+        Constructor<?>[] made = StoneBeds.class.getDeclaredConstructors();
+        Check.holds("one public constructor without arguments",
+            made.length == 1 && Modifier.isPublic(made[0].getModifiers()) && made[0].getParameterCount() == 0);
+        Set<String> constants = new TreeSet<>();
+        for (Field f : StoneBeds.class.getDeclaredFields()) {
+            if (!Modifier.isPrivate(f.getModifiers())) {
+                constants.add(Modifier.toString(f.getModifiers()) + " " + f.getName());
+            }
+        }
+        Check.holds("the constants are the document's: " + constants, constants.equals(new TreeSet<>(Arrays.asList(
+            "public static final BAD", "public static final NO", "public static final FULL", "public static final NONE"))));
+        Check.due("BAD", StoneBeds.BAD, -1);
+        Check.due("NO", StoneBeds.NO, -2);
+        Check.due("FULL", StoneBeds.FULL, -3);
+        Check.due("NONE", StoneBeds.NONE, -4);
+    }
+
+    private static void source(Path file) throws Exception {
+        JavaCompiler compiler = ToolProvider.getSystemJavaCompiler();
+        try (StandardJavaFileManager files = compiler.getStandardFileManager(null, null, null)) {
+            JavacTask task = (JavacTask) compiler.getTask(null, files, null, null, null, files.getJavaFileObjects(file));
+            for (CompilationUnitTree unit : task.parse()) {
+                Check.holds("no package line", unit.getPackageName() == null);
+                new Rules(Trees.instance(task), unit).scan(unit, null);
+            }
+        }
+    }
+
+    private static final class Rules extends TreePathScanner<Void, Void> {
+        private final Trees trees;
+        private final CompilationUnitTree unit;
+        private int classes;
+
+        Rules(Trees trees, CompilationUnitTree unit) {
+            this.trees = trees;
+            this.unit = unit;
+        }
+
+        private long line(long position) {
+            return unit.getLineMap().getLineNumber(position);
+        }
+
+        private void none(String what, Tree tree) {
+            Check.holds("line " + line(trees.getSourcePositions().getStartPosition(unit, tree)) + ": no " + what, false);
+        }
+
+        @Override
+        public Void visitImport(ImportTree tree, Void nothing) {
+            Check.holds("import " + tree.getQualifiedIdentifier(), tree.getQualifiedIdentifier().toString().startsWith("java.util."));
+            return super.visitImport(tree, nothing);
+        }
+
+        @Override
+        public Void visitClass(ClassTree tree, Void nothing) {
+            classes++;
+            Check.holds("some twelve classes at most", classes <= 12);
+            boolean inside = classes > 1;
+            Check.holds(tree.getSimpleName() + " is static, if it is inside",
+                !inside || tree.getModifiers().getFlags().contains(javax.lang.model.element.Modifier.STATIC));
+            long fields = tree.getMembers().stream()
+                .filter(m -> m instanceof VariableTree v && !v.getModifiers().getFlags().contains(javax.lang.model.element.Modifier.STATIC))
+                .count();
+            Check.holds(tree.getSimpleName() + " has some twenty fields at most", fields <= 20);
+            return super.visitClass(tree, nothing);
+        }
+
+        @Override
+        public Void visitMethod(MethodTree tree, Void nothing) {
+            Check.holds(tree.getName() + " takes seven parameters at most", tree.getParameters().size() <= 7);
+            long first = line(trees.getSourcePositions().getStartPosition(unit, tree));
+            long last = line(trees.getSourcePositions().getEndPosition(unit, tree));
+            Check.holds(tree.getName() + " is short", last - first < 60);
+            return super.visitMethod(tree, nothing);
+        }
+
+        @Override
+        public Void visitVariable(VariableTree tree, Void nothing) {
+            var flags = tree.getModifiers().getFlags();
+            Check.holds(tree.getName() + " is final, if it is static",
+                !flags.contains(javax.lang.model.element.Modifier.STATIC) || flags.contains(javax.lang.model.element.Modifier.FINAL));
+            return super.visitVariable(tree, nothing);
+        }
+
+        /** More than the rule asks: all that a StoneBeds needs is made with it. */
+        private void madeInAConstructor(Tree tree) {
+            for (var path = getCurrentPath(); path != null; path = path.getParentPath()) {
+                if (path.getLeaf() instanceof MethodTree m && !m.getName().contentEquals("<init>")) {
+                    none("object made outside a constructor", tree);
+                }
+            }
+        }
+
+        @Override
+        public Void visitNewClass(NewClassTree tree, Void nothing) {
+            Check.holds("no class without a name", tree.getClassBody() == null);
+            madeInAConstructor(tree);
+            return super.visitNewClass(tree, nothing);
+        }
+
+        @Override
+        public Void visitNewArray(NewArrayTree tree, Void nothing) {
+            madeInAConstructor(tree);
+            return super.visitNewArray(tree, nothing);
+        }
+
+        @Override
+        public Void visitTry(TryTree tree, Void nothing) {
+            none("try", tree);
+            return super.visitTry(tree, nothing);
+        }
+
+        @Override
+        public Void visitThrow(ThrowTree tree, Void nothing) {
+            none("throw", tree);
+            return super.visitThrow(tree, nothing);
+        }
+
+        @Override
+        public Void visitSynchronized(SynchronizedTree tree, Void nothing) {
+            none("synchronized", tree);
+            return super.visitSynchronized(tree, nothing);
+        }
+
+        @Override
+        public Void visitAssert(AssertTree tree, Void nothing) {
+            none("assert", tree);
+            return super.visitAssert(tree, nothing);
+        }
+
+        @Override
+        public Void visitLambdaExpression(LambdaExpressionTree tree, Void nothing) {
+            none("lambda", tree);
+            return super.visitLambdaExpression(tree, nothing);
+        }
+
+        @Override
+        public Void visitMemberReference(MemberReferenceTree tree, Void nothing) {
+            none("method reference", tree);
+            return super.visitMemberReference(tree, nothing);
+        }
+    }
+}

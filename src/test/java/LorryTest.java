@@ -15,7 +15,7 @@ public final class LorryTest {
         Check.end("LorryTest");
     }
 
-    /** One PART of each WEIGHT, PART i on the top of STACK i (those from 5 on beneath, 8 under 0). */
+    /** One PART of each WEIGHT, PART i on STACK i; a PART 5 would lie beneath PART 0. */
     private static StoneBeds withWeights(int... weights) {
         StoneBeds x = new StoneBeds();
         for (int weight : weights) {

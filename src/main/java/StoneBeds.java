@@ -345,10 +345,8 @@ public final class StoneBeds {
 
     public int at(int stack, int i) {
         Pile told = stackOf(stack);
-        if (told == null || i < 0 || i >= STACK_HEIGHT) {
-            return BAD;
-        }
-        return told.from(i);
+        // No bound is told for i: where the STACK has no PART it is NONE, which stands ahead of BAD.
+        return told == null ? BAD : told.from(i);
     }
 
     public int bed(int bed, int what) {

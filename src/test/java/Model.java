@@ -412,8 +412,8 @@ final class Model {
     }
 
     int at(int stack, int i) {
-        if (!in(stack, 0, 4) || !in(i, 0, 3)) return BAD;
-        return i < stacks.get(stack).size() ? stacks.get(stack).get(i) : NONE;
+        if (!in(stack, 0, 4)) return BAD;
+        return in(i, 0, stacks.get(stack).size() - 1) ? stacks.get(stack).get(i) : NONE;
     }
 
     int bed(int bed, int what) {

@@ -277,7 +277,7 @@ public final class ModelTest {
             }
         }
         for (int stack = 0; stack < 5; stack++) {
-            for (int i = 0; i < 4; i++) {
+            for (int i = -1; i <= 5; i++) {
                 due("at(" + stack + ", " + i + ")", x.at(stack, i), model.at(stack, i));
             }
         }

@@ -161,12 +161,21 @@ public final class YardTest {
         }
         Check.due("at: above the top", x.at(1, 3), StoneBeds.NONE);
         Check.due("at: empty", x.at(0, 0), StoneBeds.NONE);
-        Check.due("at: no such height", x.at(1, 4), StoneBeds.BAD);
+        for (int i : new int[] {4, 5, 7, 39, 40, 63}) {
+            Check.due("at: higher than a stack can be, " + i, x.at(1, i), StoneBeds.NONE);
+            Check.due("at: so high on an empty one, " + i, x.at(0, i), StoneBeds.NONE);
+        }
         Check.due("at: no stack", x.at(5, 0), StoneBeds.BAD);
+        Check.due("at: no stack, and no such place", x.at(5, 7), StoneBeds.BAD);
         for (int o : OUTSIDE) {
             Check.due("at: stack " + o, x.at(o, 0), StoneBeds.BAD);
-            Check.due("at: i " + o, x.at(1, o), StoneBeds.BAD);
+            Check.due("at: i " + o, x.at(1, o), StoneBeds.NONE);
+            Check.due("at: i " + o + " of an empty one", x.at(0, o), StoneBeds.NONE);
+            Check.due("at: both " + o, x.at(o, o), StoneBeds.BAD);
         }
+        StoneBeds full = Check.yard(4);
+        Check.due("at: the top of a full one", full.at(0, 3), 3);
+        Check.due("at: above a full one", full.at(0, 4), StoneBeds.NONE);
         x.load(1);
         Check.due("at: what was loaded is gone", x.at(1, 2), StoneBeds.NONE);
     }

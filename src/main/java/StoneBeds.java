@@ -345,8 +345,8 @@ public final class StoneBeds {
 
     public int at(int stack, int i) {
         Pile told = stackOf(stack);
-        // No bound is told for i: where the STACK has no PART it is NONE, which stands ahead of BAD.
-        return told == null ? BAD : told.from(i);
+        // Counting goes from 0 up without a bound, so only a number below 0 counts no place.
+        return told == null || i < 0 ? BAD : told.from(i);
     }
 
     public int bed(int bed, int what) {

@@ -412,7 +412,7 @@ final class Model {
     }
 
     int at(int stack, int i) {
-        if (!in(stack, 0, 4)) return BAD;
+        if (!in(stack, 0, 4) || i < 0) return BAD;
         return in(i, 0, stacks.get(stack).size() - 1) ? stacks.get(stack).get(i) : NONE;
     }
 

@@ -161,7 +161,7 @@ public final class YardTest {
         }
         Check.due("at: above the top", x.at(1, 3), StoneBeds.NONE);
         Check.due("at: empty", x.at(0, 0), StoneBeds.NONE);
-        for (int i : new int[] {4, 5, 7, 39, 40, 63}) {
+        for (int i : new int[] {4, 5, 7, 39, 40, 63, Integer.MAX_VALUE}) {
             Check.due("at: higher than a stack can be, " + i, x.at(1, i), StoneBeds.NONE);
             Check.due("at: so high on an empty one, " + i, x.at(0, i), StoneBeds.NONE);
         }
@@ -169,9 +169,11 @@ public final class YardTest {
         Check.due("at: no stack, and no such place", x.at(5, 7), StoneBeds.BAD);
         for (int o : OUTSIDE) {
             Check.due("at: stack " + o, x.at(o, 0), StoneBeds.BAD);
-            Check.due("at: i " + o, x.at(1, o), StoneBeds.NONE);
-            Check.due("at: i " + o + " of an empty one", x.at(0, o), StoneBeds.NONE);
             Check.due("at: both " + o, x.at(o, o), StoneBeds.BAD);
+        }
+        for (int i : new int[] {-1, -2, -4, Integer.MIN_VALUE}) {
+            Check.due("at: below nought, " + i, x.at(1, i), StoneBeds.BAD);
+            Check.due("at: below nought of an empty one, " + i, x.at(0, i), StoneBeds.BAD);
         }
         StoneBeds full = Check.yard(4);
         Check.due("at: the top of a full one", full.at(0, 3), 3);

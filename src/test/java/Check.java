@@ -1,4 +1,7 @@
-/** Counts answers that are not due, and makes what many tests start from. */
+import java.util.Arrays;
+import java.util.stream.IntStream;
+
+/** Counts answers that are not due. */
 final class Check {
     private static int asked = 0;
     private static int wrong = 0;
@@ -25,38 +28,6 @@ final class Check {
         }
     }
 
-    static void draw(StoneBeds x, int n, int length, int weight) {
-        for (int i = 0; i < n; i++) {
-            x.part(length, 0, weight);
-        }
-    }
-
-    /** PARTS 0 .. n - 1, all LOOSE. */
-    static StoneBeds loose(int n, int length, int weight) {
-        StoneBeds x = new StoneBeds();
-        draw(x, n, length, weight);
-        x.cast(0, 0, n == 32 ? -1 : (1 << n) - 1);
-        x.hours(20);
-        x.letGo(0);
-        return x;
-    }
-
-    /** As many PARTS as the rows hold, row s on STACK s, numbered from row to row. */
-    static StoneBeds yard(int... heights) {
-        int n = 0;
-        for (int h : heights) {
-            n += h;
-        }
-        StoneBeds x = loose(n, 5, 10);
-        int part = 0;
-        for (int s = 0; s < heights.length; s++) {
-            for (int i = 0; i < heights[s]; i++) {
-                x.stack(part++, s);
-            }
-        }
-        return x;
-    }
-
     static long order(int... parts) {
         long order = 0;
         for (int i = 0; i < parts.length; i++) {
@@ -65,34 +36,20 @@ final class Check {
         return order;
     }
 
-    /** All that can be told of an object, as one text: what a refused call must leave as it was. */
-    static String all(StoneBeds x) {
-        StringBuilder text = new StringBuilder();
-        for (int what = 0; what <= 10; what++) {
-            text.append(x.count(what)).append(' ');
-        }
-        for (int part = 0; part < x.count(0); part++) {
-            text.append("| ");
-            for (int what = 0; what <= 7; what++) {
-                text.append(x.told(part, what)).append(' ');
-            }
-        }
-        for (int stack = 0; stack < 5; stack++) {
-            text.append("s ");
-            for (int i = 0; i < 4; i++) {
-                text.append(x.at(stack, i)).append(' ');
-            }
-        }
-        for (int bed = 0; bed < 3; bed++) {
-            text.append("b ");
-            for (int what = 0; what <= 3; what++) {
-                text.append(x.bed(bed, what)).append(' ');
-            }
-        }
-        text.append("l ");
-        for (int what = 0; what <= 4; what++) {
-            text.append(x.lorry(what)).append(' ');
-        }
-        return text.toString();
+    /**
+     * Numbers outside of those from least to most: the first beyond on both sides, the ends of int,
+     * and such as would be inside if they were cut to a byte or a short, or if their sign were.
+     */
+    static int[] outside(int least, int most) {
+        return IntStream.of(least - 1, most + 1, Integer.MIN_VALUE, Integer.MAX_VALUE,
+                least + 256, most + 256, least + 65536, most + 65536, least - 65536,
+                Integer.MIN_VALUE + least, Integer.MIN_VALUE + most, -most)
+            .filter(n -> n < least || n > most).distinct().toArray();
+    }
+
+    static int[] join(int[] some, int... more) {
+        int[] all = Arrays.copyOf(some, some.length + more.length);
+        System.arraycopy(more, 0, all, some.length, more.length);
+        return all;
     }
 }

@@ -1,171 +1,249 @@
 /** Promises 12, 13 and 14: the LORRY. */
 public final class LorryTest {
-    private static final int[] OUTSIDE = {Integer.MIN_VALUE, -1, Integer.MAX_VALUE};
+    private static final int[] NO_STACKS = Check.outside(0, 4);
 
     public static void main(String[] args) {
-        load();
-        loadFull();
-        loadTooHeavy();
+        loadOfAStack();
+        loadOfAnEmptyStack();
+        loadTheTopOne();
+        loadFourParts();
+        loadWeight();
         loadFrontAxle();
         loadRearAxle();
+        loadOfSeveralTheFirst();
         loadLaysBare();
-        go();
-        lorry();
+        goOfAnEmptyOne();
+        goAway();
+        goNumbersTrips();
+        goMakesRoom();
+        lorryWhat();
+        lorryTold();
+        lorryOfNone();
         right();
+        rightNeedsByOne();
+        rightNow();
         Check.end("LorryTest");
     }
 
-    /** One PART of each WEIGHT, PART i on STACK i; a PART 5 would lie beneath PART 0. */
-    private static StoneBeds withWeights(int... weights) {
-        StoneBeds x = new StoneBeds();
-        for (int weight : weights) {
-            x.part(5, 0, weight);
+    /** "BAD" */
+    private static void loadOfAStack() {
+        for (int stack = 0; stack < 5; stack++) {
+            int of = stack;
+            Scene loaded = Scene.loose(1, 5, 5).and(x -> x.stack(0, of)).takes("load: of stack " + stack, 0, x -> x.load(of));
+            loaded.due("load: is on the lorry", 6, x -> x.told(0, 4));
+            loaded.due("load: has no number there", StoneBeds.NONE, x -> x.told(0, 5));
+            loaded.due("load: is on the stack no more", StoneBeds.NONE, x -> x.at(of, 0));
         }
-        x.cast(0, 0, (1 << weights.length) - 1);
-        x.hours(20);
-        x.letGo(0);
-        for (int i = weights.length - 1; i >= 0; i--) {
-            x.stack(i, i % 5);
-        }
-        return x;
+        Scene.everywhere().refusesEach("load: stack", StoneBeds.BAD, NO_STACKS, n -> x -> x.load(n));
+        Scene.of().refusesEach("load: new, stack", StoneBeds.BAD, NO_STACKS, n -> x -> x.load(n));
     }
 
-    private static void load() {
-        StoneBeds x = withWeights(10, 20, 30);
-        Check.due("load: no stack", x.load(5), StoneBeds.BAD);
-        for (int o : OUTSIDE) {
-            Check.due("load: stack " + o, x.load(o), StoneBeds.BAD);
-        }
-        Check.due("load: empty", x.load(3), StoneBeds.NO);
-        Check.due("load: place 0", x.load(2), 0);
-        Check.due("load: place 1", x.load(0), 1);
-        Check.due("load: place 2", x.load(1), 2);
-        Check.due("load: it is on the lorry", x.told(0, 4), 6);
-        Check.due("load: empty then", x.load(0), StoneBeds.NO);
-        int[] due = {3, 60, 30 * 8 + 10 * 6 + 20 * 4, 30 + 10 * 3 + 20 * 5, 1};
-        for (int what = 0; what < due.length; what++) {
-            Check.due("lorry(" + what + ")", x.lorry(what), due[what]);
-        }
+    /** "NO: the STACK is empty" */
+    private static void loadOfAnEmptyStack() {
+        Scene.everywhere().refuses("load: an empty stack", StoneBeds.NO, x -> x.load(3));
+        Scene.everywhere().refuses("load: the last stack, empty", StoneBeds.NO, x -> x.load(4));
+        Scene.yard(1).and(x -> x.load(0)).refuses("load: the stack was emptied", StoneBeds.NO, x -> x.load(0));
+        Scene.yard(1).and(x -> x.change(0, 6, 0, 1)).refuses("load: it was struck", StoneBeds.NO, x -> x.load(0));
     }
 
-    private static void loadFull() {
-        StoneBeds x = withWeights(1, 1, 1, 1, 100, 1);
-        for (int i = 0; i < 4; i++) {
-            Check.due("load: place " + i, x.load(i), i);
+    /** "The top one of a STACK comes on the LORRY: its PLACE."; "the first one at PLACE 0, to 3" */
+    private static void loadTheTopOne() {
+        Scene scene = Scene.yard(4);
+        for (int place = 0; place < 4; place++) {
+            int top = 3 - place;
+            scene = scene.takes("load: place " + place, place, x -> x.load(0));
+            scene.due("load: the top one, " + top, 6, x -> x.told(top, 4));
+            scene.due("load: they are on the lorry", place + 1, x -> x.count(10));
         }
-        String before = Check.all(x);
-        Check.due("load: a fifth, too heavy as well", x.load(4), StoneBeds.FULL);
-        Check.due("load: a fifth", x.load(0), StoneBeds.FULL);
-        Check.due("load: empty ahead of full", x.load(1), StoneBeds.NO);
-        Check.holds("load: refused ones change nothing", before.equals(Check.all(x)));
+        scene.due("load: the stack is empty", StoneBeds.NONE, x -> x.at(0, 0));
     }
 
-    private static void loadTooHeavy() {
+    /** "and 4 PARTS"; "FULL: 4" */
+    private static void loadFourParts() {
+        Scene three = Scene.weights(1, 1, 1, 1, 1).and(x -> x.load(0), x -> x.load(1), x -> x.load(2));
+        Scene four = three.takes("load: a fourth", 3, x -> x.load(3));
+        four.refuses("load: a fifth", StoneBeds.FULL, x -> x.load(4));
+        four.and(x -> x.go()).due("load: a fifth, on the next", 0, x -> x.load(4));
+    }
+
+    /** "bears WEIGHT 120 at most" */
+    private static void loadWeight() {
         // With the light ones ahead neither AXLE is near its most.
-        StoneBeds x = withWeights(20, 20, 20, 61, 60);
-        x.load(0);
-        x.load(1);
-        x.load(2);
-        String before = Check.all(x);
-        Check.due("load: 121", x.load(3), StoneBeds.NO);
-        Check.holds("load: too heavy changes nothing", before.equals(Check.all(x)));
-        Check.due("load: 120", x.load(4), 3);
-        Check.due("lorry: 120", x.lorry(1), 120);
+        Scene three = Scene.weights(20, 20, 20, 61, 60).and(x -> x.load(0), x -> x.load(1), x -> x.load(2));
+        three.refuses("load: 121", StoneBeds.NO, x -> x.load(3));
+        three.takes("load: 120", 3, x -> x.load(4)).due("load: 120 is told", 120, x -> x.lorry(1));
+        Scene two = Scene.weights(30, 40, 50, 51).and(x -> x.load(0), x -> x.load(1));
+        two.refuses("load: 121 by the third", StoneBeds.NO, x -> x.load(3));
+        two.due("load: 120 by the third", 2, x -> x.load(2));
     }
 
+    /** "FRONT is the sum of WEIGHT times (8 - 2 PLACE)"; "(exactly: 720 ahead of dividing)" */
     private static void loadFrontAxle() {
-        StoneBeds x = withWeights(91, 90, 1);
-        Check.due("load: front of 728", x.load(0), StoneBeds.NO);
-        Check.due("load: front of 720", x.load(1), 0);
-        Check.due("lorry: front", x.lorry(2), 720);
-        Check.due("load: front of 726", x.load(2), StoneBeds.NO);
-        StoneBeds y = withWeights(60, 41, 40);
-        y.load(0);
-        Check.due("load: front of 726 by the second", y.load(1), StoneBeds.NO);
-        Check.due("load: front of 720 by the second", y.load(2), 1);
-        Check.due("lorry: front of both", y.lorry(2), 720);
+        frontBears(0, Scene.weights(90, 91));
+        frontBears(1, Scene.weights(40, 41, 60).and(x -> x.load(2)));
+        frontBears(2, Scene.weights(3, 4, 60, 38).and(x -> x.load(2), x -> x.load(3)));
+        frontBears(3, Scene.weights(1, 2, 60, 39, 1).and(x -> x.load(2), x -> x.load(3), x -> x.load(4)));
+        Scene.weights(100).refuses("load: front of 800", StoneBeds.NO, x -> x.load(0));
+        Scene.weights(1, 90).and(x -> x.load(1)).refuses("load: front of 726", StoneBeds.NO, x -> x.load(0));
     }
 
+    /** PART 0 is the heaviest that the AXLE bears; PART 1 weighs one more. */
+    private static void frontBears(int place, Scene scene) {
+        scene.takes("load: front at its most, place " + place, place, x -> x.load(0))
+            .due("lorry: front at its most, place " + place, 720, x -> x.lorry(2));
+        scene.refuses("load: front beyond its most, place " + place, StoneBeds.NO, x -> x.load(1));
+    }
+
+    /** "REAR of WEIGHT times (2 PLACE and 1)"; "(exactly: 720 ahead of dividing)" */
     private static void loadRearAxle() {
-        StoneBeds x = withWeights(1, 1, 1, 100, 99);
-        x.load(0);
-        x.load(1);
-        x.load(2);
-        // 1 + 3 + 5 + 7 * 102 would be 723.
-        Check.due("lorry: rear of three", x.lorry(3), 9);
-        Check.due("load: rear of 709 by the fourth", x.load(3), 3);
-        Check.due("lorry: rear of four", x.lorry(3), 709);
-        StoneBeds y = withWeights(2, 1, 5, 99, 98);
-        y.load(0);
-        y.load(1);
-        y.load(2);
-        Check.due("load: rear of 723 by the fourth", y.load(3), StoneBeds.NO);
-        Check.due("load: rear of 716 by the fourth", y.load(4), 3);
-        StoneBeds w = withWeights(1, 5, 1, 100);
-        w.load(0);
-        w.load(1);
-        w.load(2);
-        Check.due("load: rear of 721 by the fourth", w.load(3), StoneBeds.NO);
-        StoneBeds z = withWeights(1, 3, 2, 100);
-        z.load(0);
-        z.load(1);
-        z.load(2);
-        Check.due("load: rear of 720 by the fourth", z.load(3), 3);
-        Check.due("lorry: rear at its most", z.lorry(3), 720);
+        // Only the fourth, which counts seven times, can bring REAR to so much.
+        Scene most = Scene.weights(100, 1, 3, 2).and(x -> x.load(1), x -> x.load(2), x -> x.load(3));
+        most.due("lorry: rear of 20", 20, x -> x.lorry(3));
+        most.takes("load: rear of 720", 3, x -> x.load(0)).due("lorry: rear of 720", 720, x -> x.lorry(3));
+        Scene one = Scene.weights(100, 2, 3, 2).and(x -> x.load(1), x -> x.load(2), x -> x.load(3));
+        one.due("lorry: rear of 21", 21, x -> x.lorry(3));
+        one.refuses("load: rear of 721", StoneBeds.NO, x -> x.load(0));
+        Scene two = Scene.weights(99, 98, 2, 1, 5).and(x -> x.load(2), x -> x.load(3), x -> x.load(4));
+        two.refuses("load: rear of 723", StoneBeds.NO, x -> x.load(0));
+        two.takes("load: rear of 716", 3, x -> x.load(1)).due("lorry: rear of 716", 716, x -> x.lorry(3));
     }
 
+    /** "BAD; NO: the STACK is empty; FULL: 4; NO: the WEIGHT or an AXLE would be too great." */
+    private static void loadOfSeveralTheFirst() {
+        Scene four = Scene.weights(30, 30, 29, 30, 100).and(x -> x.load(0), x -> x.load(1), x -> x.load(2), x -> x.load(3));
+        four.refuses("load: no stack, full", StoneBeds.BAD, x -> x.load(5));
+        four.refuses("load: an empty stack, full", StoneBeds.NO, x -> x.load(0));
+        four.refuses("load: full, and the weight", StoneBeds.FULL, x -> x.load(4));
+    }
+
+    /** "in THE YARD as soon as it is a top one" */
     private static void loadLaysBare() {
-        StoneBeds x = Check.yard(3);
-        x.change(0, 6, 0, 10);
-        x.change(1, 6, 0, 10);
-        Check.due("load: lays two bare", x.load(0), 0);
-        Check.due("load: the first is struck", x.told(1, 4), 5);
-        Check.due("load: the second is struck", x.told(0, 4), 5);
-        Check.due("load: the stack is empty", x.at(0, 0), StoneBeds.NONE);
+        Scene two = Scene.yard(3).and(x -> x.change(0, 6, 0, 10), x -> x.change(1, 6, 0, 10));
+        Scene bare = two.takes("load: lays two bare", 0, x -> x.load(0));
+        bare.due("load: the first is struck", 5, x -> x.told(1, 4));
+        bare.due("load: the second is struck", 5, x -> x.told(0, 4));
+        bare.due("load: the stack is empty", StoneBeds.NONE, x -> x.at(0, 0));
+        Scene refused = Scene.weights(100, 10, 10, 10, 10, 1).and(x -> x.change(5, 6, 0, 1));
+        refused.refuses("load: a refused one lays none bare", StoneBeds.NO, x -> x.load(0));
     }
 
-    private static void go() {
-        StoneBeds x = withWeights(10, 20, 30);
-        Check.due("go: empty", x.go(), StoneBeds.NO);
-        Check.due("go: no trip", x.count(2), 0);
-        x.load(2);
-        x.load(1);
-        Check.due("go: two", x.go(), 2);
-        Check.due("go: a trip", x.count(2), 1);
-        Check.due("go: away", x.told(2, 4), 4);
-        Check.due("go: by the first trip", x.told(2, 5), 0);
-        for (int what = 0; what < 4; what++) {
-            Check.due("go: the next lorry, " + what, x.lorry(what), 0);
-        }
-        Check.due("go: the next lorry is right", x.lorry(4), 1);
-        Check.due("go: again", x.go(), StoneBeds.NO);
-        Check.due("go: the next lorry has place 0", x.load(0), 0);
-        Check.due("go: one", x.go(), 1);
-        Check.due("go: by the second trip", x.told(0, 5), 1);
-        Check.due("go: none is on the lorry", x.count(10), 0);
+    /** "NO: it is empty." */
+    private static void goOfAnEmptyOne() {
+        Scene.of().refuses("go: new", StoneBeds.NO, x -> x.go());
+        Scene.yard(2).refuses("go: none is loaded", StoneBeds.NO, x -> x.go());
+        Scene.everywhere().and(x -> x.go()).refuses("go: again", StoneBeds.NO, x -> x.go());
+        Scene.weights(100).and(x -> x.load(0)).refuses("go: one was refused", StoneBeds.NO, x -> x.go());
     }
 
-    private static void lorry() {
-        StoneBeds x = withWeights(10);
-        Check.due("lorry: what 5", x.lorry(5), StoneBeds.BAD);
-        for (int o : OUTSIDE) {
-            Check.due("lorry: what " + o, x.lorry(o), StoneBeds.BAD);
+    /** "It goes with what is on it (AWAY)"; "how many PARTS are AWAY by it" */
+    private static void goAway() {
+        for (int n = 1; n <= 4; n++) {
+            Scene gone = Scene.yard(4, 1).times(n, x -> x.load(0)).takes("go: with " + n, n, x -> x.go());
+            gone.due("go: away, " + n, n, x -> x.count(8));
+            gone.due("go: none is on the lorry", 0, x -> x.count(10));
+            gone.due("go: the first is away", 4, x -> x.told(3, 4));
+            gone.due("go: one trip", 1, x -> x.count(2));
+            gone.due("go: the rest is in the yard", 5 - n, x -> x.count(7));
         }
     }
 
+    private static void goNumbersTrips() {
+        Scene trips = Scene.everywhere()
+            .takes("go: of the second trip", 1, x -> x.go())
+            .and(x -> x.load(2)).takes("go: of the third trip", 1, x -> x.go());
+        trips.due("go: three trips", 3, x -> x.count(2));
+        int[] parts = {7, 8, 6};
+        for (int trip = 0; trip < 3; trip++) {
+            int part = parts[trip];
+            trips.due("go: trip of part " + part, trip, x -> x.told(part, 5));
+        }
+        trips.and(x -> x.go()).due("go: a refused one is no trip", 3, x -> x.count(2));
+    }
+
+    private static void goMakesRoom() {
+        Scene gone = Scene.weights(90, 90, 20).and(x -> x.load(0), x -> x.go());
+        for (int what = 0; what < 5; what++) {
+            int asked = what;
+            gone.due("go: the next lorry, " + what, what == 4 ? 1 : 0, x -> x.lorry(asked));
+        }
+        gone.due("go: the next lorry bears as much", 0, x -> x.load(1));
+    }
+
+    /** "0 PARTS, 1 WEIGHT, 2 FRONT times 9, 3 REAR times 9, 4 1 if it is RIGHT for NEED, else 0. BAD." */
+    private static void lorryWhat() {
+        Scene.everywhere().refusesEach("lorry: what", StoneBeds.BAD, Check.outside(0, 4), n -> x -> x.lorry(n));
+        Scene.of().refusesEach("lorry: new, what", StoneBeds.BAD, Check.outside(0, 4), n -> x -> x.lorry(n));
+    }
+
+    private static void lorryTold() {
+        int[][] due = {
+            {0, 0, 0, 0, 1},
+            {1, 30, 240, 30, 1},
+            {2, 40, 240 + 60, 30 + 30, 1},
+            {3, 60, 300 + 80, 60 + 100, 1},
+            {4, 67, 380 + 14, 160 + 49, 1}};
+        Scene scene = Scene.weights(10, 20, 30, 7);
+        int[] stacks = {2, 0, 1, 3};
+        for (int n = 0; n < due.length; n++) {
+            for (int what = 0; what < 5; what++) {
+                int asked = what;
+                scene.due("lorry(" + what + ") of " + n, due[n][what], x -> x.lorry(asked));
+            }
+            int next = n < 4 ? stacks[n] : 4;
+            scene = scene.and(x -> x.load(next));
+        }
+    }
+
+    /** "RIGHT is a LORRY for NEED, if of PARTS on it .. NEEDS do not fall": of none, and of one. */
+    private static void lorryOfNone() {
+        Scene.of().due("lorry: none is right", 1, x -> x.lorry(4));
+        Scene one = Scene.yard(1).and(x -> x.load(0));
+        one.due("lorry: one is right", 1, x -> x.lorry(4));
+        one.and(x -> x.need(0, 1000)).due("lorry: one of the greatest need is right", 1, x -> x.lorry(4));
+        Scene.everywhere().due("lorry: one is right, whatever others need", 1, x -> x.lorry(4));
+    }
+
+    /** "last one first, NEEDS do not fall" */
     private static void right() {
-        StoneBeds x = withWeights(10, 10, 10, 10);
-        int[] needs = {1000, 5, 5, 4};
+        isRight(1, 1000, 5, 5, 4);
+        isRight(1, 5, 5, 5, 5);
+        isRight(1, 1000, 999, 1, 0);
+        isRight(1, 0, 0, 0, 0);
+        isRight(0, 0, 1, 999, 1000);
+        isRight(1, 3, 2);
+        isRight(0, 2, 3);
+    }
+
+    private static void rightNeedsByOne() {
+        isRight(0, 4, 5, 5, 4);
+        isRight(0, 5, 4, 5, 4);
+        isRight(0, 5, 5, 4, 5);
+        isRight(0, 0, 0, 0, 1);
+        isRight(0, 999, 1000, 0, 0);
+        isRight(0, 7, 6, 7);
+    }
+
+    private static void isRight(int due, int... needs) {
+        int[] weights = new int[needs.length];
+        StringBuilder name = new StringBuilder("lorry: right with");
         for (int i = 0; i < needs.length; i++) {
-            x.need(i, needs[i]);
-            x.load(i);
-            Check.due("lorry: right with " + (i + 1), x.lorry(4), 1);
+            weights[i] = 10;
+            name.append(' ').append(needs[i]);
         }
-        x.need(3, 6);
-        Check.due("lorry: the last one's need is too great", x.lorry(4), 0);
-        x.need(3, 5);
-        Check.due("lorry: like needs are right", x.lorry(4), 1);
-        x.need(0, 4);
-        Check.due("lorry: the first one's need is too small", x.lorry(4), 0);
+        Scene scene = Scene.weights(weights);
+        for (int i = 0; i < needs.length; i++) {
+            int part = i;
+            scene = scene.and(x -> x.need(part, needs[part]), x -> x.load(part));
+        }
+        scene.due(name.toString(), due, x -> x.lorry(4));
+    }
+
+    /** "Of the LORRY now" */
+    private static void rightNow() {
+        Scene two = Scene.weights(10, 10, 10).and(x -> x.load(0), x -> x.load(1));
+        two.and(x -> x.need(1, 1)).due("lorry: a need told later", 0, x -> x.lorry(4));
+        two.and(x -> x.need(1, 1), x -> x.need(0, 1)).due("lorry: both needs told later", 1, x -> x.lorry(4));
+        two.and(x -> x.need(1, 1), x -> x.go()).due("lorry: the next one is right", 1, x -> x.lorry(4));
+        two.and(x -> x.need(2, 9)).due("lorry: the need of one in the yard", 1, x -> x.lorry(4));
     }
 }

@@ -3,10 +3,9 @@ import java.util.Collections;
 import java.util.List;
 import java.util.Random;
 
-/** Long runs of calls on a StoneBeds and on the Model side by side, and what they come to. */
+/** Long runs of calls on a StoneBeds and on the Model side by side, 512 calls at most each. */
 public final class ModelTest {
-    private static final int RUNS = 1500;
-    private static final int CALLS = 512;
+    private static final int RUNS = 3000;
     private static final int[] ODD = {
         Integer.MIN_VALUE, -101, -5, -4, -2, -1, 0, 1, 2, 3, 4, 5, 6, 7, 8, 10, 11, 12, 31, 39, 40, 63, 64, 200, 201, Integer.MAX_VALUE};
 
@@ -16,6 +15,7 @@ public final class ModelTest {
     private final int plans;
     private final StoneBeds x = new StoneBeds();
     private final Model model = new Model();
+    private int asked;
 
     private ModelTest(int run) {
         this.run = run;
@@ -32,27 +32,29 @@ public final class ModelTest {
     }
 
     private void calls() {
-        int before = 0;
         if (run % 5 < 2) {
-            before = fillYard();
+            fillYard();
         } else if (run % 5 == 2) {
-            before = drawHardOnes();
+            drawHardOnes();
         }
-        for (int call = before; call < CALLS; call++) {
+        boolean askAll = run / 60 % 2 == 0;
+        // A round makes three calls at most, and one PART, of which eight things can be told.
+        while (asked + 3 + (askAll ? allQuestions() + 8 : 0) <= Scene.MOST_CALLS) {
             if (random.nextInt(12) == 0) {
                 oddCall();
             } else {
                 plainCall();
             }
-            if (call % 32 == 0) {
-                compareAll();
-            }
+            ask();
         }
-        compareAll();
+        if (askAll) {
+            compareAll();
+        }
+        Check.holds("run " + run + ": " + asked + " calls are 512 at most", asked <= Scene.MOST_CALLS);
     }
 
     /** A yard of eight to twelve, as DIGGINGS and those to be STRUCK ask for. */
-    private int fillYard() {
+    private void fillYard() {
         int n = 8 + upTo(5);
         for (int i = 0; i < n; i++) {
             part(1 + upTo(15), 0, 1 + upTo(40));
@@ -73,11 +75,10 @@ public final class ModelTest {
                 plainChange();
             }
         }
-        return 4 * n + 100;
     }
 
     /** Twelve of nearly one LENGTH, of which two, three, .. nearly fill a BED. */
-    private int drawHardOnes() {
+    private void drawHardOnes() {
         int about = 300 / (2 + upTo(5)) - 10;
         for (int i = 0; i < 14; i++) {
             part(about + upTo(20), upTo(plans), weight());
@@ -87,10 +88,10 @@ public final class ModelTest {
                 due("casts(" + from + ", ..)", x.casts(from, from + 11, what), model.casts(from, from + 11, what));
             }
         }
-        return 20;
     }
 
     private void due(String call, long got, long want) {
+        asked++;
         Check.due("run " + run + ": " + call, got, want);
     }
 
@@ -164,13 +165,13 @@ public final class ModelTest {
             case 8: move(a, b); break;
             case 9: diggings(a, random.nextLong() >>> random.nextInt(64)); break;
             case 10: load(a); break;
-            case 11: due("lorry(" + a + ")", x.lorry(a), model.lorry(a)); break;
+            case 11: lorry(a); break;
             case 12: change(a, b, c, d); break;
             case 13: change(one(0, 1, 2, 3), 1 + upTo(201), upTo(9), 1 + upTo(101)); break;
-            case 14: due("told(" + a + ", " + b + ")", x.told(a, b), model.told(a, b)); break;
-            case 15: due("at(" + a + ", " + b + ")", x.at(a, b), model.at(a, b)); break;
-            case 16: due("bed(" + a + ", " + b + ")", x.bed(a, b), model.bed(a, b)); break;
-            case 17: due("count(" + a + ")", x.count(a), model.count(a)); break;
+            case 14: told(a, b); break;
+            case 15: at(a, b); break;
+            case 16: bed(a, b); break;
+            case 17: count(a); break;
             default: diggings(upTo(8), odd()); break;
         }
     }
@@ -267,27 +268,62 @@ public final class ModelTest {
             x.change(part, length, plan, weight), model.change(part, length, plan, weight));
     }
 
+    private void ask() {
+        int what = upTo(12);
+        switch (random.nextInt(5)) {
+            case 0: told(upTo(model.count(0)), what % 8); break;
+            case 1: at(what % 5, upTo(5)); break;
+            case 2: bed(what % 3, what / 3); break;
+            case 3: lorry(what % 5); break;
+            default: count(what); break;
+        }
+    }
+
+    private int allQuestions() {
+        return 11 + 8 * model.count(0) + 20 + 12 + 5;
+    }
+
     private void compareAll() {
-        for (int what = -1; what <= 11; what++) {
-            due("count(" + what + ")", x.count(what), model.count(what));
+        for (int what = 0; what <= 10; what++) {
+            count(what);
         }
         for (int part = 0; part < model.count(0); part++) {
             for (int what = 0; what <= 7; what++) {
-                due("told(" + part + ", " + what + ")", x.told(part, what), model.told(part, what));
+                told(part, what);
             }
         }
         for (int stack = 0; stack < 5; stack++) {
-            for (int i = -1; i <= 5; i++) {
-                due("at(" + stack + ", " + i + ")", x.at(stack, i), model.at(stack, i));
+            for (int i = 0; i < 4; i++) {
+                at(stack, i);
             }
         }
         for (int bed = 0; bed < 3; bed++) {
             for (int what = 0; what < 4; what++) {
-                due("bed(" + bed + ", " + what + ")", x.bed(bed, what), model.bed(bed, what));
+                bed(bed, what);
             }
         }
         for (int what = 0; what < 5; what++) {
-            due("lorry(" + what + ")", x.lorry(what), model.lorry(what));
+            lorry(what);
         }
+    }
+
+    private void count(int what) {
+        due("count(" + what + ")", x.count(what), model.count(what));
+    }
+
+    private void told(int part, int what) {
+        due("told(" + part + ", " + what + ")", x.told(part, what), model.told(part, what));
+    }
+
+    private void at(int stack, int i) {
+        due("at(" + stack + ", " + i + ")", x.at(stack, i), model.at(stack, i));
+    }
+
+    private void bed(int bed, int what) {
+        due("bed(" + bed + ", " + what + ")", x.bed(bed, what), model.bed(bed, what));
+    }
+
+    private void lorry(int what) {
+        due("lorry(" + what + ")", x.lorry(what), model.lorry(what));
     }
 }

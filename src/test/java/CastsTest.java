@@ -16,6 +16,7 @@ public final class CastsTest {
         castsOfPlansApart();
         plainNumber();
         plainTakesTheLongestFirst();
+        castsChangeNothing();
         fewestAgainstAllSets();
         castOnABed();
         castFrom();
@@ -175,6 +176,24 @@ public final class CastsTest {
         castsAre("falling", Scene.drawn(2, 146, 96, 96, 96, 71, 71), 0, 5, 2, 3);
         castsAre("by numbers would ask for less", Scene.drawn(2, 146, 71, 71, 96, 96, 96), 0, 5, 2, 3);
         castsAre("by numbers would ask for more", Scene.drawn(0, 96, 100, 196, 200), 0, 3, 2, 2);
+        int[] lengths = {146, 96, 96, 96, 71, 71};
+        for (int from = 0; from < lengths.length; from++) {
+            int[] turned = new int[lengths.length];
+            for (int i = 0; i < lengths.length; i++) {
+                turned[i] = lengths[(from + i) % lengths.length];
+            }
+            castsAre("turned by " + from, Scene.drawn(7, turned), 0, 5, 2, 3);
+        }
+        castsAre("the shortest and the longest last", Scene.drawn(0, 96, 96, 71, 96, 71, 146), 0, 5, 2, 3);
+    }
+
+    private static void castsChangeNothing() {
+        Scene all = Scene.everywhere();
+        all.leaves("casts: fewest", x -> x.casts(0, 20, 0));
+        all.leaves("casts: plain", x -> x.casts(0, 20, 1));
+        Scene hard = Scene.drawn(2, 146, 96, 96, 96, 71, 71);
+        hard.leaves("casts: fewest, fewer than plain", x -> x.casts(0, 5, 0));
+        hard.leaves("casts: plain, more than the fewest", x -> x.casts(0, 5, 1));
     }
 
     /** The fewest are looked for here by trying all sets, one after the other. */

@@ -104,14 +104,14 @@ public final class ChangeTest {
     /** "one that is .. to be STRUCK: NO" */
     private static void toBeStruck() {
         isNotChanged("to be struck, in the yard", 4, 14, 0, 9);
-        isNotChanged("to be struck, on a bed", 16, 30, 2, 30);
+        isNotChanged("to be struck, on a bed", 16, 130, 2, 30);
     }
 
     /** "If all three are as they were: 2, nothing changes." */
     private static void asItWas() {
         Scene all = Scene.everywhere();
         all.refuses("change: as it was, drawn", 2, x -> x.change(19, 60, 1, 60));
-        all.refuses("change: as it was, on a bed", 2, x -> x.change(17, 40, 2, 40));
+        all.refuses("change: as it was, on a bed", 2, x -> x.change(17, 140, 2, 40));
         all.refuses("change: as it was, loose", 2, x -> x.change(9, 19, 0, 14));
         all.refuses("change: as it was when it was cut", 2, x -> x.change(12, 5, 0, 1));
         all.refuses("change: as it was, on top", 2, x -> x.change(3, 13, 0, 8));

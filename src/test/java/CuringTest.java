@@ -146,7 +146,7 @@ public final class CuringTest {
 
     /** "LET GO at RIPENESS 500 at least"; "NO: .. not yet" */
     private static void letGoAtRipeness() {
-        Scene cast = Scene.draw(2, 10, 1).and(x -> x.cast(1, 0, 3));
+        Scene cast = Scene.draw(2, 140, 1).and(x -> x.cast(1, 0, 3));
         Scene slow = cast.and(x -> x.warmth(-9), x -> x.hours(200), x -> x.hours(200), x -> x.hours(99));
         slow.due("letGo: 499", 499, x -> x.bed(1, 2));
         slow.refuses("letGo: at 499", StoneBeds.NO, x -> x.letGo(1));
@@ -155,12 +155,13 @@ public final class CuringTest {
         Scene usual = cast.and(x -> x.hours(19));
         usual.refuses("letGo: at 475", StoneBeds.NO, x -> x.letGo(1));
         usual.and(x -> x.hours(1)).due("letGo: at 500 in 20 hours", 2, x -> x.letGo(1));
+        Scene.everywhere().refuses("letGo: neither ripe nor its hours", StoneBeds.NO, x -> x.letGo(1));
         cast.and(x -> x.warmth(-10)).times(50, x -> x.hours(200)).refuses("letGo: at 0", StoneBeds.NO, x -> x.letGo(1));
     }
 
     /** "and 12 HOURS since it was CAST" */
     private static void letGoAfterHours() {
-        Scene cast = Scene.draw(2, 10, 1).and(x -> x.hours(30), x -> x.warmth(60), x -> x.cast(2, 0, 1));
+        Scene cast = Scene.draw(2, 200, 1).and(x -> x.hours(30), x -> x.warmth(60), x -> x.cast(2, 0, 1));
         Scene eleven = cast.and(x -> x.hours(11));
         eleven.due("letGo: ripe in 11 hours", 770, x -> x.bed(2, 2));
         eleven.refuses("letGo: 11 hours", StoneBeds.NO, x -> x.letGo(2));
@@ -262,7 +263,7 @@ public final class CuringTest {
         one.due("bed: one part has no joint", 40, x -> x.bed(0, 1));
         one.due("bed: no hour since it was cast", 0, x -> x.bed(0, 3));
         Scene.everywhere().due("bed: one to be struck is on it still", 2, x -> x.bed(1, 0));
-        Scene.everywhere().due("bed: with its length", 74, x -> x.bed(1, 1));
+        Scene.everywhere().due("bed: with its length", 274, x -> x.bed(1, 1));
     }
 
     /** "0 PARTS, 1 LENGTHS and JOINTS together, 2 RIPENESS, 3 HOURS since it was CAST (0). BAD." */

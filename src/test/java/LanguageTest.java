@@ -1,9 +1,14 @@
 import com.sun.source.tree.AssertTree;
 import com.sun.source.tree.ClassTree;
 import com.sun.source.tree.CompilationUnitTree;
-import com.sun.source.tree.ImportTree;
+import com.sun.source.tree.DoWhileLoopTree;
+import com.sun.source.tree.ForLoopTree;
+import com.sun.source.tree.IdentifierTree;
 import com.sun.source.tree.LambdaExpressionTree;
+import com.sun.source.tree.LiteralTree;
 import com.sun.source.tree.MemberReferenceTree;
+import com.sun.source.tree.MemberSelectTree;
+import com.sun.source.tree.MethodInvocationTree;
 import com.sun.source.tree.MethodTree;
 import com.sun.source.tree.NewArrayTree;
 import com.sun.source.tree.NewClassTree;
@@ -12,6 +17,7 @@ import com.sun.source.tree.ThrowTree;
 import com.sun.source.tree.Tree;
 import com.sun.source.tree.TryTree;
 import com.sun.source.tree.VariableTree;
+import com.sun.source.tree.WhileLoopTree;
 import com.sun.source.util.JavacTask;
 import com.sun.source.util.TreePathScanner;
 import com.sun.source.util.Trees;
@@ -21,8 +27,11 @@ import java.lang.reflect.Method;
 import java.lang.reflect.Modifier;
 import java.nio.file.Path;
 import java.util.Arrays;
+import java.util.HashSet;
 import java.util.List;
+import java.util.Map;
 import java.util.Set;
+import java.util.TreeMap;
 import java.util.TreeSet;
 import javax.tools.JavaCompiler;
 import javax.tools.StandardJavaFileManager;
@@ -84,15 +93,27 @@ public final class LanguageTest {
             JavacTask task = (JavacTask) compiler.getTask(null, files, null, null, null, files.getJavaFileObjects(file));
             for (CompilationUnitTree unit : task.parse()) {
                 Check.holds("no package line", unit.getPackageName() == null);
-                new Rules(Trees.instance(task), unit).scan(unit, null);
+                Check.holds("no import, as nothing of the library is needed but Math", unit.getImports().isEmpty());
+                Rules rules = new Rules(Trees.instance(task), unit);
+                rules.scan(unit, null);
+                rules.names();
+                rules.depths();
             }
         }
     }
+
+    /** Stricter than the rules where the class needs less than they leave it: no library but this. */
+    private static final Set<String> LIBRARY = Set.of("Math.max", "Math.min");
+    private static final Set<String> NUMBERS = Set.of("int", "long", "boolean", "int[]", "long[]");
 
     private static final class Rules extends TreePathScanner<Void, Void> {
         private final Trees trees;
         private final CompilationUnitTree unit;
         private int classes;
+        private final Set<String> ownClasses = new TreeSet<>();
+        private final Set<String> namesWithCapitals = new TreeSet<>();
+        private final Set<String> privateMethods = new TreeSet<>();
+        private final Map<String, Set<String>> callsOf = new TreeMap<>();
 
         Rules(Trees trees, CompilationUnitTree unit) {
             this.trees = trees;
@@ -107,15 +128,119 @@ public final class LanguageTest {
             Check.holds("line " + line(trees.getSourcePositions().getStartPosition(unit, tree)) + ": no " + what, false);
         }
 
+        /** All classes are known only when all has been read. */
+        void names() {
+            for (String name : namesWithCapitals) {
+                Check.holds(name + " is a class of its own, or Math", ownClasses.contains(name) || name.equals("Math"));
+            }
+            for (String method : FACE) {
+                String name = method.substring(4, method.indexOf('('));
+                Check.holds("no private method anywhere is named " + name, !privateMethods.contains(name));
+            }
+        }
+
+        /** Rules 8 and 11, methods of one name taken for one: what leads back to itself is counted once. */
+        void depths() {
+            for (String method : callsOf.keySet()) {
+                Check.holds(method + " goes at most eight deep", depth(method, new HashSet<>()) <= 8);
+            }
+        }
+
+        private int depth(String method, Set<String> open) {
+            if (!callsOf.containsKey(method) || !open.add(method)) {
+                return 0;
+            }
+            int deepest = 0;
+            for (String called : callsOf.get(method)) {
+                deepest = Math.max(deepest, depth(called, open));
+            }
+            open.remove(method);
+            return 1 + deepest;
+        }
+
+        private boolean isType(Tree type) {
+            String name = type == null ? "void" : type.toString();
+            String bare = name.endsWith("[]") ? name.substring(0, name.length() - 2) : name;
+            if (NUMBERS.contains(name) || name.equals("void")) {
+                return true;
+            }
+            namesWithCapitals.add(bare);
+            return !bare.endsWith("]") && Character.isUpperCase(bare.charAt(0));
+        }
+
+        private MethodTree method() {
+            for (var path = getCurrentPath(); path != null; path = path.getParentPath()) {
+                if (path.getLeaf() instanceof MethodTree m) {
+                    return m;
+                }
+            }
+            return null;
+        }
+
+        private void hasAnEnd(Tree loop, Tree condition) {
+            if (condition == null || condition.toString().equals("(true)") || condition.toString().equals("true")) {
+                none("loop without an end", loop);
+            }
+        }
+
         @Override
-        public Void visitImport(ImportTree tree, Void nothing) {
-            Check.holds("import " + tree.getQualifiedIdentifier(), tree.getQualifiedIdentifier().toString().startsWith("java.util."));
-            return super.visitImport(tree, nothing);
+        public Void visitForLoop(ForLoopTree tree, Void nothing) {
+            hasAnEnd(tree, tree.getCondition());
+            return super.visitForLoop(tree, nothing);
+        }
+
+        @Override
+        public Void visitWhileLoop(WhileLoopTree tree, Void nothing) {
+            hasAnEnd(tree, tree.getCondition());
+            return super.visitWhileLoop(tree, nothing);
+        }
+
+        @Override
+        public Void visitDoWhileLoop(DoWhileLoopTree tree, Void nothing) {
+            hasAnEnd(tree, tree.getCondition());
+            return super.visitDoWhileLoop(tree, nothing);
+        }
+
+        @Override
+        public Void visitIdentifier(IdentifierTree tree, Void nothing) {
+            String name = tree.getName().toString();
+            if (Character.isUpperCase(name.charAt(0)) && !name.equals(name.toUpperCase())) {
+                namesWithCapitals.add(name);
+            }
+            return super.visitIdentifier(tree, nothing);
+        }
+
+        @Override
+        public Void visitMemberSelect(MemberSelectTree tree, Void nothing) {
+            if (tree.getExpression().toString().equals("Math")) {
+                Check.holds(tree + " is of the library that is needed", LIBRARY.contains(tree.toString()));
+            }
+            return super.visitMemberSelect(tree, nothing);
+        }
+
+        @Override
+        public Void visitMethodInvocation(MethodInvocationTree tree, Void nothing) {
+            MethodTree from = method();
+            String called = tree.getMethodSelect().toString();
+            if (from != null) {
+                callsOf.get(from.getName().toString()).add(called.substring(called.lastIndexOf('.') + 1));
+            }
+            return super.visitMethodInvocation(tree, nothing);
+        }
+
+        @Override
+        public Void visitLiteral(LiteralTree tree, Void nothing) {
+            if (tree.getValue() instanceof String || tree.getValue() instanceof Double || tree.getValue() instanceof Float) {
+                none("text, and no fraction, " + tree, tree);
+            }
+            return super.visitLiteral(tree, nothing);
         }
 
         @Override
         public Void visitClass(ClassTree tree, Void nothing) {
             classes++;
+            ownClasses.add(tree.getSimpleName().toString());
+            Check.holds(tree.getSimpleName() + " is in no method", method() == null);
             Check.holds("some twelve classes at most", classes <= 12);
             boolean inside = classes > 1;
             Check.holds(tree.getSimpleName() + " is static, if it is inside",
@@ -133,14 +258,23 @@ public final class LanguageTest {
             long first = line(trees.getSourcePositions().getStartPosition(unit, tree));
             long last = line(trees.getSourcePositions().getEndPosition(unit, tree));
             Check.holds(tree.getName() + " is short", last - first < 60);
+            String name = tree.getName().toString();
+            Check.holds(name + " is none of Object's", !Set.of("equals", "hashCode", "toString", "finalize", "clone").contains(name));
+            Check.holds(name + " answers a type that is left", isType(tree.getReturnType()));
+            if (tree.getModifiers().getFlags().contains(javax.lang.model.element.Modifier.PRIVATE)) {
+                privateMethods.add(name);
+            }
+            callsOf.computeIfAbsent(name, none -> new TreeSet<>());
             return super.visitMethod(tree, nothing);
         }
 
         @Override
         public Void visitVariable(VariableTree tree, Void nothing) {
             var flags = tree.getModifiers().getFlags();
-            Check.holds(tree.getName() + " is final, if it is static",
-                !flags.contains(javax.lang.model.element.Modifier.STATIC) || flags.contains(javax.lang.model.element.Modifier.FINAL));
+            boolean isStatic = flags.contains(javax.lang.model.element.Modifier.STATIC);
+            Check.holds(tree.getName() + " is a final int, if it is static",
+                !isStatic || flags.contains(javax.lang.model.element.Modifier.FINAL) && tree.getType().toString().equals("int"));
+            Check.holds(tree.getName() + " is of a type that is left", isType(tree.getType()));
             return super.visitVariable(tree, nothing);
         }
 

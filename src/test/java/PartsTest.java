@@ -25,6 +25,7 @@ public final class PartsTest {
         counts();
         countWhat();
         eachPartIsSomewhere();
+        askingChangesNothing();
         theLastCall();
         Check.end("PartsTest");
     }
@@ -254,6 +255,17 @@ public final class PartsTest {
             }
             Check.due("count: all that are anywhere", sum, x.count(0));
         }
+    }
+
+    private static void askingChangesNothing() {
+        Scene all = Scene.everywhere();
+        all.leaves("told", x -> x.told(4, 7));
+        all.leaves("at", x -> x.at(0, 3));
+        all.leaves("bed", x -> x.bed(1, 2));
+        all.leaves("lorry", x -> x.lorry(4));
+        all.leaves("count", x -> x.count(10));
+        all.leaves("need, the same again", x -> x.need(3, 9));
+        all.leaves("warmth, the same again", x -> x.warmth(7));
     }
 
     /** "An object is used for at most 512 calls" */

@@ -99,7 +99,7 @@ final class Scene {
             .and(x -> x.stack(7, 3), x -> x.load(3), x -> x.go())
             .and(x -> x.stack(8, 3), x -> x.load(3))
             .and(x -> x.change(11, 99, 0, 1), x -> x.change(12, 5, 0, 1), x -> x.change(4, 99, 1, 1))
-            .and(x -> x.part(30, 2, 30), x -> x.part(40, 2, 40), x -> x.cast(1, 16, 3))
+            .and(x -> x.part(130, 2, 30), x -> x.part(140, 2, 40), x -> x.cast(1, 16, 3))
             .and(x -> x.change(16, 50, 3, 50), x -> x.part(60, 1, 60), x -> x.part(70, 1, 70))
             .and(x -> x.warmth(7), x -> x.hours(3));
     }

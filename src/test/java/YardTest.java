@@ -232,6 +232,14 @@ public final class YardTest {
         digs("moved twice", Scene.yard(2, 1, 1, 1, 1), 2, 0, 2, 3, 4, 5);
         digs("moved twice, wanted last", Scene.yard(2, 1, 1, 1, 1), 2, 0, 2, 3, 4, 5, 1);
         digs("wanted next, moved once", Scene.yard(2, 1, 1, 1, 1), 1, 0, 1, 2, 3, 4, 5);
+        // PARTS 2, 6, 9 on STACK 0, 3 on 1, 0 on 2, 4, 5, 7, 8 on 3, 1 on 4: no order in a yard of ten was seen to ask for more.
+        Scene most = Scene.loose(10, 5, 5);
+        int[] stacks = {2, 4, 0, 1, 3, 3, 0, 3, 3, 0};
+        for (int i = 0; i < stacks.length; i++) {
+            int part = i;
+            most = most.and(x -> x.stack(part, stacks[part]));
+        }
+        digs("nine", most, 9, 4, 2, 3, 0, 1, 9);
         // The order begins with top ones, which makes room.
         digs("top ones first", Scene.yard(3, 1, 1, 1, 1), 2, 3, 4, 5, 6, 0);
     }

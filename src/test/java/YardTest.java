@@ -240,6 +240,8 @@ public final class YardTest {
             most = most.and(x -> x.stack(part, stacks[part]));
         }
         digs("nine", most, 9, 4, 2, 3, 0, 1, 9);
+        // PART 2 goes on PART 3, which is wanted later, so that the empty STACK 1 is left for PART 1.
+        digs("an empty one is kept for the next", Scene.yard(3, 0, 1, 4, 1), 2, 0, 8, 2, 3, 1);
         // The order begins with top ones, which makes room.
         digs("top ones first", Scene.yard(3, 1, 1, 1, 1), 2, 3, 4, 5, 6, 0);
     }

@@ -575,6 +575,15 @@ public final class StoneBeds {
             return from(height - 1);
         }
 
+        boolean holds(int number) {
+            for (int i = 0; i < height; i++) {
+                if (from(i) == number) {
+                    return true;
+                }
+            }
+            return false;
+        }
+
         int takeOff() {
             int taken = top();
             if (height > 0) {
@@ -659,11 +668,11 @@ public final class StoneBeds {
         }
 
         void add(int length) {
-            if (held < 0 || held >= sizes.length) {
+            int place = held;
+            if (place < 0 || place >= sizes.length) {
                 return;
             }
             int size = length + JOINT;
-            int place = held;
             for (; place > 0 && sizes[place - 1] < size; place--) {
                 sizes[place] = sizes[place - 1];
             }
@@ -675,15 +684,16 @@ public final class StoneBeds {
         int plainCasts() {
             int casts = 0;
             for (int item = 0; item < held; item++) {
+                int size = sizeOf(item);
                 int cast = 0;
-                while (cast < casts && filled[cast] + sizes[item] > ROOM) {
+                while (cast < casts && roomOn(cast) < size) {
                     cast++;
                 }
                 if (cast == casts) {
-                    filled[cast] = 0;
+                    empty(cast);
                     casts++;
                 }
-                filled[cast] += sizes[item];
+                fill(cast, size);
             }
             return casts;
         }
@@ -692,7 +702,7 @@ public final class StoneBeds {
             int most = plainCasts();
             for (int casts = (sum + ROOM - 1) / ROOM; casts < most; casts++) {
                 for (int cast = 0; cast < casts; cast++) {
-                    filled[cast] = 0;
+                    empty(cast);
                 }
                 if (packs(0, casts, casts * ROOM - sum)) {
                     return casts;
@@ -701,15 +711,36 @@ public final class StoneBeds {
             return most;
         }
 
+        private int sizeOf(int item) {
+            return item < 0 || item >= held || item >= sizes.length ? 0 : sizes[item];
+        }
+
+        private int roomOn(int cast) {
+            return cast < 0 || cast >= filled.length ? 0 : ROOM - filled[cast];
+        }
+
+        private void empty(int cast) {
+            if (cast >= 0 && cast < filled.length) {
+                filled[cast] = 0;
+            }
+        }
+
+        /** With less than nothing what was laid there is taken off again. */
+        private void fill(int cast, int more) {
+            if (cast >= 0 && cast < filled.length) {
+                filled[cast] += more;
+            }
+        }
+
         /** Tells whether the items from this one on go on the casts, with this much room to be lost. */
         private boolean packs(int item, int casts, int spare) {
             if (item >= held) {
                 return true;
             }
-            int size = sizes[item];
-            int least = sizes[held - 1];
+            int size = sizeOf(item);
+            int least = sizeOf(held - 1);
             for (int cast = 0; cast < casts; cast++) {
-                int room = ROOM - filled[cast];
+                int room = roomOn(cast);
                 if (room < size) {
                     continue;
                 }
@@ -726,14 +757,15 @@ public final class StoneBeds {
         }
 
         private boolean packsOn(int cast, int item, int casts, int spare) {
-            int left = ROOM - filled[cast] - sizes[item];
-            int lost = left < sizes[held - 1] ? left : 0;
+            int size = sizeOf(item);
+            int left = roomOn(cast) - size;
+            int lost = left < sizeOf(held - 1) ? left : 0;
             if (lost > spare) {
                 return false;
             }
-            filled[cast] += sizes[item];
+            fill(cast, size);
             boolean packed = packs(item + 1, casts, spare - lost);
-            filled[cast] -= sizes[item];
+            fill(cast, -size);
             return packed;
         }
     }
@@ -801,32 +833,47 @@ public final class StoneBeds {
         /** Tells whether all from this turn on can be taken with so many moves; if not, all is as before. */
         private boolean reaches(int turn, int moves) {
             int next = turn;
-            int source = pileWith(next);
-            while (next < wanted && isTop(source, next)) {
-                takenFrom[next] = source;
-                piles[source].takeOff();
+            while (next < wanted && takes(next)) {
                 next++;
-                source = pileWith(next);
             }
-            if (next >= wanted || moves > 0 && mustMove() <= moves && digs(source, next, moves)) {
+            if (next >= wanted || moves > 0 && mustMove() <= moves && digs(next, moves)) {
                 return true;
             }
             for (int i = next - 1; i >= turn; i--) {
-                piles[takenFrom[i]].put(i);
+                putBack(i);
             }
             return false;
         }
 
-        private boolean digs(int source, int next, int moves) {
-            Pile from = pileOf(source);
+        /** Takes it off if it is a top one, and tells whether it was. */
+        private boolean takes(int turn) {
+            int source = pileWith(turn);
+            Pile pile = pileOf(source);
+            if (pile == null || pile.top() != turn || turn < 0 || turn >= takenFrom.length) {
+                return false;
+            }
+            takenFrom[turn] = source;
+            pile.takeOff();
+            return true;
+        }
+
+        private void putBack(int turn) {
+            Pile pile = turn < 0 || turn >= takenFrom.length ? null : pileOf(takenFrom[turn]);
+            if (pile != null) {
+                pile.put(turn);
+            }
+        }
+
+        private boolean digs(int next, int moves) {
+            Pile from = pileOf(pileWith(next));
             if (from == null) {
                 return false;
             }
             int moved = from.takeOff();
             boolean emptyTried = false;
-            for (int i = 0; i < piles.length; i++) {
-                Pile to = piles[i];
-                if (to == from || !to.hasRoom() || to.height == 0 && emptyTried) {
+            for (int i = 0; i < STACKS; i++) {
+                Pile to = pileOf(i);
+                if (to == null || to == from || !to.hasRoom() || to.height == 0 && emptyTried) {
                     continue;
                 }
                 emptyTried |= to.height == 0;
@@ -840,34 +887,34 @@ public final class StoneBeds {
             return false;
         }
 
-        private boolean isTop(int pile, int turn) {
-            Pile told = pileOf(pile);
-            return told != null && told.top() == turn;
-        }
-
         private int pileWith(int turn) {
-            for (int i = 0; i < piles.length; i++) {
-                for (int j = 0; j < piles[i].height; j++) {
-                    if (piles[i].from(j) == turn) {
-                        return i;
-                    }
+            for (int i = 0; i < STACKS; i++) {
+                Pile pile = pileOf(i);
+                if (pile != null && pile.holds(turn)) {
+                    return i;
                 }
             }
             return NONE;
         }
 
-        /** Each that lies above one with an earlier turn must be moved at least once. */
         private int mustMove() {
             int blocking = 0;
-            for (int i = 0; i < piles.length; i++) {
-                int earliest = MOST_ORDERED;
-                for (int j = 0; j < piles[i].height; j++) {
-                    int turn = piles[i].from(j);
-                    if (turn > earliest) {
-                        blocking++;
-                    } else {
-                        earliest = turn;
-                    }
+            for (int i = 0; i < STACKS; i++) {
+                blocking += blockingOn(pileOf(i));
+            }
+            return blocking;
+        }
+
+        /** Each that lies above one with an earlier turn must be moved at least once. */
+        private static int blockingOn(Pile pile) {
+            int blocking = 0;
+            int earliest = MOST_ORDERED;
+            for (int i = 0; pile != null && i < pile.height; i++) {
+                int turn = pile.from(i);
+                if (turn > earliest) {
+                    blocking++;
+                } else {
+                    earliest = turn;
                 }
             }
             return blocking;

@@ -1,6 +1,9 @@
+import com.sun.source.tree.ArrayAccessTree;
 import com.sun.source.tree.AssertTree;
+import com.sun.source.tree.BinaryTree;
 import com.sun.source.tree.ClassTree;
 import com.sun.source.tree.CompilationUnitTree;
+import com.sun.source.tree.CompoundAssignmentTree;
 import com.sun.source.tree.DoWhileLoopTree;
 import com.sun.source.tree.ForLoopTree;
 import com.sun.source.tree.IdentifierTree;
@@ -16,6 +19,7 @@ import com.sun.source.tree.SynchronizedTree;
 import com.sun.source.tree.ThrowTree;
 import com.sun.source.tree.Tree;
 import com.sun.source.tree.TryTree;
+import com.sun.source.tree.TypeCastTree;
 import com.sun.source.tree.VariableTree;
 import com.sun.source.tree.WhileLoopTree;
 import com.sun.source.util.JavacTask;
@@ -33,6 +37,7 @@ import java.util.Map;
 import java.util.Set;
 import java.util.TreeMap;
 import java.util.TreeSet;
+import java.util.regex.Pattern;
 import javax.tools.JavaCompiler;
 import javax.tools.StandardJavaFileManager;
 import javax.tools.ToolProvider;
@@ -168,6 +173,67 @@ public final class LanguageTest {
             return !bare.endsWith("]") && Character.isUpperCase(bare.charAt(0));
         }
 
+        /** Rule 7: what may be none is looked for here alone, and answered as null. */
+        private static final Set<String> LOOKED_FOR = Set.of("partOf", "bedOf", "stackOf", "pileOf");
+
+        private boolean isTested(String test) {
+            MethodTree method = method();
+            return method != null && Pattern.compile(test).matcher(method.toString()).find();
+        }
+
+        /** Rule 7: an index is looked at on both sides in the method that uses it. */
+        @Override
+        public Void visitArrayAccess(ArrayAccessTree tree, Void nothing) {
+            String array = tree.getExpression().toString();
+            String index = tree.getIndex().toString();
+            String name = index.replaceFirst(" - 1$", "");
+            Check.holds(tree + " is of a row told by its name", array.matches("\\w+"));
+            Check.holds(tree + " takes a name for its index, or the one ahead of it", name.matches("[a-z]\\w*"));
+            Check.holds(tree + ", " + name + " is less than its length",
+                isTested("\\b" + name + " (<|>=) " + array + "\\.length\\b"));
+            Check.holds(tree + ", " + name + " is not below 0", isTested("\\b" + name + " (< 0|>= 0|= 0)\\b"));
+            Check.holds(tree + ", none ahead of the first is asked for", index.equals(name) || isTested("\\b" + name + " > 0 &&"));
+            return super.visitArrayAccess(tree, nothing);
+        }
+
+        /** Rule 7: what may be none is looked at before it is used. */
+        private void mayBeNone(VariableTree tree) {
+            if (tree.getInitializer() == null) {
+                return;
+            }
+            String given = tree.getInitializer().toString();
+            boolean looked = LOOKED_FOR.stream().anyMatch(name -> given.contains(name + "("));
+            Check.holds(tree.getName() + " is looked at against null",
+                !looked || isTested("\\b" + tree.getName() + " (==|!=) null\\b"));
+        }
+
+        /** Rule 7: a divisor is a constant above 0, or it is looked at before it divides. */
+        private void divides(Tree.Kind kind, Tree tree, Tree divisor) {
+            if (Set.of(Tree.Kind.DIVIDE, Tree.Kind.REMAINDER, Tree.Kind.DIVIDE_ASSIGNMENT, Tree.Kind.REMAINDER_ASSIGNMENT).contains(kind)) {
+                Check.holds(tree + " has a divisor that is looked at",
+                    divisor.toString().matches("[A-Z][A-Z_]+|[1-9][0-9]*") || isTested("\\b" + divisor + " <= 0\\b"));
+            }
+        }
+
+        @Override
+        public Void visitBinary(BinaryTree tree, Void nothing) {
+            divides(tree.getKind(), tree, tree.getRightOperand());
+            return super.visitBinary(tree, nothing);
+        }
+
+        @Override
+        public Void visitCompoundAssignment(CompoundAssignmentTree tree, Void nothing) {
+            divides(tree.getKind(), tree, tree.getExpression());
+            return super.visitCompoundAssignment(tree, nothing);
+        }
+
+        /** Rule 7: a cast between numbers never throws, and no other is needed. */
+        @Override
+        public Void visitTypeCast(TypeCastTree tree, Void nothing) {
+            Check.holds(tree + " is a cast to a number", NUMBERS.contains(tree.getType().toString()));
+            return super.visitTypeCast(tree, nothing);
+        }
+
         private MethodTree method() {
             for (var path = getCurrentPath(); path != null; path = path.getParentPath()) {
                 if (path.getLeaf() instanceof MethodTree m) {
@@ -212,6 +278,8 @@ public final class LanguageTest {
 
         @Override
         public Void visitMemberSelect(MemberSelectTree tree, Void nothing) {
+            Check.holds(tree + " is of what has a name, so that it can be looked at",
+                !(tree.getExpression() instanceof MethodInvocationTree));
             if (tree.getExpression().toString().equals("Math")) {
                 Check.holds(tree + " is of the library that is needed", LIBRARY.contains(tree.toString()));
             }
@@ -275,6 +343,7 @@ public final class LanguageTest {
             Check.holds(tree.getName() + " is a final int, if it is static",
                 !isStatic || flags.contains(javax.lang.model.element.Modifier.FINAL) && tree.getType().toString().equals("int"));
             Check.holds(tree.getName() + " is of a type that is left", isType(tree.getType()));
+            mayBeNone(tree);
             return super.visitVariable(tree, nothing);
         }
 

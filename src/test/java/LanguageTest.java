@@ -189,9 +189,11 @@ public final class LanguageTest {
             String name = index.replaceFirst(" - 1$", "");
             Check.holds(tree + " is of a row told by its name", array.matches("\\w+"));
             Check.holds(tree + " takes a name for its index, or the one ahead of it", name.matches("[a-z]\\w*"));
-            Check.holds(tree + ", " + name + " is less than its length",
-                isTested("\\b" + name + " (<|>=) " + array + "\\.length\\b"));
-            Check.holds(tree + ", " + name + " is not below 0", isTested("\\b" + name + " (< 0|>= 0|= 0)\\b"));
+            String less = name + " < " + array + "\\.length\\b";
+            String beyond = name + " >= " + array + "\\.length\\b";
+            Check.holds(tree + ", " + name + " is looked at on both sides",
+                isTested("\\b" + name + " < 0 \\|\\| (" + name + " >= \\w+ \\|\\| )?" + beyond)
+                    || isTested("\\b" + name + " >= 0 && " + less) || isTested("\\bint " + name + " = 0; " + less));
             Check.holds(tree + ", none ahead of the first is asked for", index.equals(name) || isTested("\\b" + name + " > 0 &&"));
             return super.visitArrayAccess(tree, nothing);
         }
